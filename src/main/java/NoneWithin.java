@@ -437,7 +437,7 @@ public final class NoneWithin {
     }
 
     private static boolean has(int bits, int i) {
-        return (bits >>> i & 1) != 0;
+        return ((bits >>> i) & 1) != 0;
     }
 
     private static boolean within(int a, int b) {
@@ -523,7 +523,7 @@ public final class NoneWithin {
             } else if (open != 0) {
                 int last = Integer.highestOneBit(open);
                 open &= ~last;
-                matched |= last | 1 << sort;
+                matched |= last | (1 << sort);
             }
         }
         return matched;
@@ -861,14 +861,14 @@ public final class NoneWithin {
                 }
             }
             for (int i = 0; i < boxes; i++) {
-                int other = clash[i] >>> i + 1;
+                int other = clash[i] >>> (i + 1);
                 if (other != 0) {
                     return 2 * NUMBERS + 100 * i + i + 1 + Integer.numberOfTrailingZeros(other);
                 }
             }
             for (int i = 0; i < boxes; i++) {
                 for (int j = i + 1; j < boxes; j++) {
-                    int third = has(near[i], j) ? (near[i] & near[j]) >>> j + 1 : 0;
+                    int third = has(near[i], j) ? (near[i] & near[j]) >>> (j + 1) : 0;
                     if (third != 0) {
                         return 3 * NUMBERS + 10000 * i + 100 * j + j + 1 + Integer.numberOfTrailingZeros(third);
                     }
@@ -1005,7 +1005,7 @@ public final class NoneWithin {
         }
 
         int bestSum() {
-            return best + bits >> SHIFT;
+            return (best + bits) >> SHIFT;
         }
 
         private int worthwhile(int boxes) {
@@ -1037,7 +1037,7 @@ public final class NoneWithin {
             int taken = chosen;
             // What is in nobody's way is taken without a choice.
             while (next < table.boxes && !(has(free, next) && table.tangled(next, chosen | free))) {
-                taken |= free & 1 << next;
+                taken |= free & (1 << next);
                 next++;
             }
             if (next >= table.boxes) {
@@ -1047,7 +1047,7 @@ public final class NoneWithin {
             }
             int rest = free & ~taken & ~(1 << next);
             int lost = rest & table.barredBy(next, taken);
-            search(next + 1, taken | 1 << next, rest & ~lost, reach - weigh(lost));
+            search(next + 1, taken | (1 << next), rest & ~lost, reach - weigh(lost));
             search(next + 1, taken, rest, reach - weights[next]);
         }
     }
@@ -1093,7 +1093,7 @@ public final class NoneWithin {
             }
             for (int i = begin; i < table.boxes; i++) {
                 if (!has(chosen | barred, i)) {
-                    walk(i + 1, chosen | 1 << i, barred | table.barredBy(i, chosen));
+                    walk(i + 1, chosen | (1 << i), barred | table.barredBy(i, chosen));
                 }
             }
         }
@@ -1103,10 +1103,11 @@ public final class NoneWithin {
     private static final class Player {
         /** Of 8 boxes that may come each chance is a whole number of 8! parts. */
         static final int PARTS = 40320;
-        private static final int WORDS = 2048;
+        /** A bit for each set of 16 boxes, 64 bits a word. */
+        private static final int WORDS = 1024;
 
-        private final int[] known = new int[WORDS];
-        private final int[] won = new int[WORDS];
+        private final long[] known = new long[WORDS];
+        private final long[] won = new long[WORDS];
         private final int[] parts = new int[1 << MOST_BY_CHANCE];
         private final LawTable table;
         private int list = 0;
@@ -1135,7 +1136,7 @@ public final class NoneWithin {
             }
             Arrays.fill(known, 0);
             for (int i = 0; i < table.boxes; i++) {
-                if (has(free, i) && !wins(list | 1 << i, barred | table.barredBy(i, list), 1)) {
+                if (has(free, i) && !wins(list | (1 << i), barred | table.barredBy(i, list), 1)) {
                     return i;
                 }
             }
@@ -1143,15 +1144,15 @@ public final class NoneWithin {
         }
 
         private boolean wins(int chosen, int shut, int depth) {
-            int word = chosen >>> 5 & WORDS - 1;
-            int bit = 1 << (chosen & 31);
+            int word = (chosen >>> 6) & (WORDS - 1);
+            long bit = 1L << (chosen & 63);
             if ((known[word] & bit) != 0) {
                 return (won[word] & bit) != 0;
             }
             boolean win = false;
             for (int i = 0; i < table.boxes && !win && depth <= MOST_BOXES; i++) {
                 if (!has(chosen | shut, i)) {
-                    win = !wins(chosen | 1 << i, shut | table.barredBy(i, chosen), depth + 1);
+                    win = !wins(chosen | (1 << i), shut | table.barredBy(i, chosen), depth + 1);
                 }
             }
             known[word] |= bit;
@@ -1174,7 +1175,7 @@ public final class NoneWithin {
             int many = 0;
             for (int i = 0; i < table.boxes && depth <= MOST_BY_CHANCE; i++) {
                 if (!has(chosen | shut, i)) {
-                    sum += PARTS - partsFrom(chosen | 1 << i, shut | table.barredBy(i, chosen), depth + 1);
+                    sum += PARTS - partsFrom(chosen | (1 << i), shut | table.barredBy(i, chosen), depth + 1);
                     many++;
                 }
             }
@@ -1193,7 +1194,7 @@ public final class NoneWithin {
                     bit <<= 1;
                 }
             }
-            return place & parts.length - 1;
+            return place & (parts.length - 1);
         }
     }
 }
