@@ -142,25 +142,29 @@ public final class AllListsTest {
         Due.refused(x, "game(5, 0) of 5 sorts", NoneWithin.BAD, -10, y -> y.game(5, 0));
     }
 
-    /** Who wins has a box behind which the other does not; who does not has none. */
     private static void gameAgainstItself() {
         for (int law = 0; law < 5; law++) {
             for (int first = 0; first < 16; first++) {
-                NoneWithin x = new NoneWithin();
-                x.box(first, 0);
-                if (x.judge(law, 0) != -1) {
-                    continue;
-                }
-                int least = -1;
-                for (int set = 15; set >= 0; set--) {
-                    if (x.box(set, 0) >= 0) {
-                        least = x.game(law, 0) == 0 ? set : least;
-                        x.pop();
-                    }
-                }
-                played(x, law, least == -1 ? 0 : 1, least);
+                againstItself(law, States.boxes(4, first));
+                againstItself(law, States.boxes(4, first, 15 - first));
+                againstItself(law, States.boxes(4, first, 15));
             }
         }
+    }
+
+    /** Who wins has a box behind which the other does not; who does not has none. */
+    private static void againstItself(int law, NoneWithin x) {
+        if (x.judge(law, 0) != -1) {
+            return;
+        }
+        int least = -1;
+        for (int set = 15; set >= 0; set--) {
+            if (x.box(set, 0) >= 0) {
+                least = x.game(law, 0) == 0 ? set : least;
+                x.pop();
+            }
+        }
+        played(x, law, least == -1 ? 0 : 1, least);
     }
 
     private static void chanced(NoneWithin x, int law, long above, long below) {

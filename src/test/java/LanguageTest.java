@@ -31,6 +31,7 @@ public final class LanguageTest {
         face();
         members();
         words(code());
+        fieldsAndTexts(code());
         Due.end("LanguageTest");
     }
 
@@ -96,6 +97,24 @@ public final class LanguageTest {
     private static String code() throws Exception {
         String source = Files.readString(Path.of("src/main/java/NoneWithin.java"));
         return source.replaceAll("(?s)/\\*.*?\\*/", " ").replaceAll("//[^\n]*", " ").replaceAll("\"[^\"\n]*\"", "\"\"");
+    }
+
+    /** Rules 3, 4, 5 and 10, as far as they can be seen so. */
+    private static void fieldsAndTexts(String code) {
+        List<Class<?>> all = new ArrayList<>(Arrays.asList(NoneWithin.class.getDeclaredClasses()));
+        all.add(NoneWithin.class);
+        Set<String> kinds = Set.of("int", "long", "boolean", "char", "String", "int[]", "long[]", "char[]", "byte[]");
+        for (Class<?> c : all) {
+            for (Field f : c.getDeclaredFields()) {
+                if (Modifier.isStatic(f.getModifiers())) {
+                    Due.due(f + " is of a kind that may be static", kinds.contains(f.getType().getSimpleName()) ? 1 : 0, 1);
+                }
+            }
+        }
+        Due.due("static block", Pattern.compile("\\bstatic\\s*\\{").matcher(code).find() ? 1 : 0, 0);
+        Due.due("texts joined by +", Pattern.compile("\"\\s*\\+|\\+\\s*\"").matcher(code).find() ? 1 : 0, 0);
+        Due.due("signs beyond 127", code.chars().allMatch(sign -> sign < 128) ? 1 : 0, 1);
+        Due.due("rows of rows", code.contains("[][]") ? 1 : 0, 0);
     }
 
     private static void words(String code) {

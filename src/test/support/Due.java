@@ -29,6 +29,22 @@ final class Due {
         due(call + ", then digest()", x.digest(), digest);
     }
 
+    /** The same, where a twin that was not asked tells what nothing else means: all that can be asked but STATUS. */
+    static void unchanged(NoneWithin x, NoneWithin twin, String call, int reason, long want, Call c) {
+        int[] status = {twin.status(0), twin.status(1), twin.status(2)};
+        status[NoneWithin.BAD - reason]++;
+        due(call, c.answer(x), want);
+        for (int what = 0; what < 3; what++) {
+            due(call + ", then status(" + what + ")", x.status(what), status[what]);
+        }
+        String now = Whole.of(x);
+        String before = Whole.of(twin);
+        if (!now.equals(before)) {
+            System.out.println(call + " left " + now + System.lineSeparator() + "where there was " + before);
+        }
+        due(call + " left all as it was", now.equals(before) ? 1 : 0, 1);
+    }
+
     static void bad(NoneWithin x, String call, Call c) {
         refused(x, call, NoneWithin.BAD, NoneWithin.BAD, c);
     }
