@@ -7,7 +7,9 @@ import java.nio.file.Path;
 import java.util.ArrayList;
 import java.util.Arrays;
 import java.util.List;
+import java.util.Map;
 import java.util.Set;
+import java.util.TreeMap;
 import java.util.TreeSet;
 import java.util.regex.Matcher;
 import java.util.regex.Pattern;
@@ -32,6 +34,8 @@ public final class LanguageTest {
         members();
         words(code());
         fieldsAndTexts(code());
+        bodiesAreFound(bodies(code()));
+        depths(bodies(code()));
         Due.end("LanguageTest");
     }
 
@@ -145,5 +149,67 @@ public final class LanguageTest {
                 begun = -1;
             }
         }
+    }
+
+    /** The methods by their names; those of one name are taken together, so a depth is never told too low. */
+    private static Map<String, String> bodies(String code) {
+        Map<String, String> found = new TreeMap<>();
+        Pattern head = Pattern.compile("( {4}| {8})(?:[a-z]+ )*(?:[A-Za-z\\[\\]]+ )?(\\w+)\\([^()]*\\) \\{\\s*");
+        String name = null;
+        String indent = "";
+        for (String line : code.split("\n")) {
+            Matcher m = head.matcher(line);
+            if (name == null && m.matches()) {
+                indent = m.group(1);
+                name = m.group(2);
+                found.merge(name, "", String::concat);
+            } else if (name != null && line.stripTrailing().equals(indent + "}")) {
+                name = null;
+            } else if (name != null) {
+                found.merge(name, line + "\n", String::concat);
+            }
+        }
+        return found;
+    }
+
+    private static void bodiesAreFound(Map<String, String> bodies) {
+        List<Class<?>> all = new ArrayList<>(Arrays.asList(NoneWithin.class.getDeclaredClasses()));
+        all.add(NoneWithin.class);
+        for (Class<?> c : all) {
+            for (Method m : c.getDeclaredMethods()) {
+                Due.due("the body of " + m + " was found", bodies.containsKey(m.getName()) ? 1 : 0, 1);
+            }
+        }
+    }
+
+    /** Rule 11: calls that are no recursion go at most eight deep; rule 8: what calls itself is known here. */
+    private static void depths(Map<String, String> bodies) {
+        Set<String> recursive = Set.of("search", "walk", "wins", "partsFrom");
+        Map<String, Set<String>> calls = new TreeMap<>();
+        for (String name : bodies.keySet()) {
+            Set<String> called = new TreeSet<>();
+            Matcher m = Pattern.compile("\\b(\\w+)\\(").matcher(bodies.get(name));
+            while (m.find()) {
+                if (bodies.containsKey(m.group(1))) {
+                    called.add(m.group(1));
+                }
+            }
+            Due.due(name + " calls itself", called.remove(name) ? 1 : 0, recursive.contains(name) ? 1 : 0);
+            calls.put(name, called);
+        }
+        for (String told : FACE) {
+            String name = told.replaceAll(".* |\\(.*", "");
+            int depth = depth(name, calls, 0);
+            Due.due("calls of " + name + " go " + depth + " deep, at most eight", depth <= 8 ? 1 : 0, 1);
+        }
+    }
+
+    /** Twenty are told where methods call one another in a ring. */
+    private static int depth(String name, Map<String, Set<String>> calls, int above) {
+        int most = 0;
+        for (String called : calls.getOrDefault(name, Set.of())) {
+            most = Math.max(most, above < 20 ? depth(called, calls, above + 1) : 0);
+        }
+        return most + 1;
     }
 }
